@@ -2089,15 +2089,18 @@ public final class GrantBoard {
         private void tickAlarm() {
             for (int i = 0; i < kernel.count; i++) {
                 Process p = kernel.processes[i];
-                int own = kernel.ownAt(p, ALARM);
-                if (cells.getWord(own) == 1) {
-                    int reference = cells.getWord(own + 4);
-                    int length = cells.getWord(own + 8);
-                    if (!below(journal.time - reference, length)) {
-                        cells.setWord(own, 0);
-                        kernel.send(p, ALARM, 0, journal.time, reference + length, 0);
-                    }
+                if (p.grants[ALARM] != 0) {
+                    ringIfDue(p, kernel.ownAt(p, ALARM));
                 }
+            }
+        }
+
+        private void ringIfDue(Process p, int own) {
+            int reference = cells.getWord(own + 4);
+            int length = cells.getWord(own + 8);
+            if (cells.getWord(own) == 1 && !below(journal.time - reference, length)) {
+                cells.setWord(own, 0);
+                kernel.send(p, ALARM, 0, journal.time, reference + length, 0);
             }
         }
 
@@ -2360,12 +2363,17 @@ public final class GrantBoard {
         private void tickSampler() {
             for (int i = 0; i < kernel.count; i++) {
                 Process p = kernel.processes[i];
-                int own = kernel.ownAt(p, SAMPLER);
-                int channel = cells.getWord(own) - 1;
-                if (channel >= 0 && channel <= 1 && cells.getWord(own + 8) == journal.time) {
-                    cells.setWord(own + 8, journal.time + cells.getWord(own + 4));
-                    kernel.send(p, SAMPLER, 0, channel, levels[channel], 0);
+                if (p.grants[SAMPLER] != 0) {
+                    sampleIfDue(p, kernel.ownAt(p, SAMPLER));
                 }
+            }
+        }
+
+        private void sampleIfDue(Process p, int own) {
+            int channel = cells.getWord(own) - 1;
+            if (channel >= 0 && channel <= 1 && cells.getWord(own + 8) == journal.time) {
+                cells.setWord(own + 8, journal.time + cells.getWord(own + 4));
+                kernel.send(p, SAMPLER, 0, channel, levels[channel], 0);
             }
         }
 
