@@ -16,6 +16,7 @@ public final class AppsTest {
         blockRoom();
         eightProcesses();
         tooMuchRam();
+        nothingIsLeftOver();
         starting();
         control();
         entries();
@@ -192,6 +193,8 @@ public final class AppsTest {
         versions("without sign", -1, 4, 0x10000);
         versions("without sign", 4, -1, second);
         Check.due("other names", loaded(named("ab", 1), named("ac", 1)), 2);
+        Check.due("one byte is a name", loaded(named("a", 1), named("a", 1)), 1);
+        Check.due("other first bytes", loaded(named("ab", 1), named("bb", 1)), 2);
         Check.due("a longer name", loaded(named("ab", 1), named("abc", 1)), 2);
         Check.due("no names", loaded(app(64), app(64)), 2);
         Check.due("too long a name is none", loaded(named("abcdefghijklmnopq", 1), named("abcdefghijklmnopq", 1)), 2);
@@ -275,6 +278,23 @@ public final class AppsTest {
         Check.due("15873", loaded(app(15873), app(64)), 1);
         Check.due("with a sign", loaded(app(-4), app(64)), 1);
         Check.due("-1", loaded(app(-1), app(64)), 1);
+    }
+
+    /** What an app that is not loaded says is forgotten as the next head is read. */
+    private static void nothingIsLeftOver() {
+        App first = App.program(15873, 7).name("ab").storeNumber(3).permissions(3, 2).code(SPIN);
+        Code c = new Code().command(0, 1, 0, 0).keep(0x20000).command(5, 1, 0, 0).keep(0x20010).spin();
+        Rig rig = Rig.with(first, App.of(64, c), named("ab", 0));
+        Check.due("both others", rig.board.boot(1, 1, 0, false, 0), 2);
+        Check.due("no version", rig.board.process(0, 13), 0);
+        rig.run(40);
+        rig.kept("no permissions", 0x20000, 129, 1000);
+        rig.kept("no store number", 0x20010, 0, 10);
+        Code asks = new Code().allowReadLabel(7, 0, "ab", 2).command(7, 3, 2, 0).spin().label("ab").text("ab");
+        rig = Rig.with(first, App.of(64, asks), named("ab", 0));
+        rig.board.boot(1, 1, 0, false, 0);
+        rig.run(40);
+        Check.due("no name", rig.board.register(0, 11), 1);
     }
 
     private static void starting() {

@@ -259,6 +259,7 @@ public final class CallsTest {
         permitted("another driver", App.plain(64).permissions(3, -1), 0, 1, 0, 11);
         permitted("the second pair", App.plain(64).permissions(3, -1, 0, 2), 0, 1, 129, 1000);
         permitted("two pairs of one driver", App.plain(64).permissions(0, 4, 0, 2), 0, 1, 129, 1000);
+        permitted("32 is none", App.plain(64).permissions(0, -1), 0, 32, 0, 11);
         permitted("from 32 on none", App.plain(64).permissions(0, -1), 0, 33, 0, 11);
         permitted("without PERMISSIONS", App.plain(64), 0, 33, 0, 10);
         permitted("bit 31", App.plain(64).permissions(0, -1), 0, 31, 0, 10);
@@ -273,6 +274,9 @@ public final class CallsTest {
         answer("no driver", 4, -1, 0, RAM, 4, 2, 11, RAM, 4);
         answer("no buffer", 3, 0, 0, RAM, 4, 2, 6, RAM, 4);
         answer("no buffer", 4, 2, 0, RAM, 4, 2, 6, RAM, 4);
+        answer("no buffer of lamps", 3, 2, 0, RAM, 4, 2, 6, RAM, 4);
+        answer("no buffer of sums for writing", 3, 8, 0, RAM, 4, 2, 6, RAM, 4);
+        answer("no buffer of the sampler", 4, 6, 0, RAM, 4, 2, 6, RAM, 4);
         answer("no buffer 2", 3, 1, 2, RAM, 4, 2, 6, RAM, 4);
         answer("no buffer -1", 4, 1, -1, RAM, 4, 2, 6, RAM, 4);
         answer("random has none for reading", 4, 4, 0, RAM, 4, 2, 6, RAM, 4);

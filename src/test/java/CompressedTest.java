@@ -12,6 +12,7 @@ public final class CompressedTest {
         noInstructions();
         faults();
         mixedLengths();
+        eachBitOfImmediates();
         Check.finish();
     }
 
@@ -53,7 +54,7 @@ public final class CompressedTest {
         leaves("or", 0x8C45, 8, 14, 8, 12, 9, 10);
         leaves("and", 0x8C65, 8, 8, 8, 12, 9, 10);
         leaves("slli", 0x02FE, 5, 0x80000000, 5, 3);
-        leaves("mv", 0x82FE, 5, 44, 5, 1, 31, 44);
+        leaves("mv", 0x82FE, 5, 44, 5, 1, 31, 44, 1, 7);
         leaves("add", 0x92FE, 5, 45, 5, 1, 31, 44);
     }
 
@@ -171,5 +172,68 @@ public final class CompressedTest {
         Rig rig = Rig.running(64, c).run(6);
         Check.due("halves and words", rig.board.register(0, 5), 15);
         Check.due("link from an odd half", rig.board.register(0, 1), CODE + 12);
+    }
+
+    /** Sets an immediate down as the manual's tables write it, such as "5:4|9:6|2|3", the highest bit at a place. */
+    private static int scatter(int v, String layout, int high) {
+        int half = 0;
+        int place = high;
+        for (String part : layout.split("\\|")) {
+            String[] ends = part.split(":");
+            int from = Integer.parseInt(ends[0]);
+            int to = Integer.parseInt(ends[ends.length - 1]);
+            for (int bit = from; bit >= to; bit--) {
+                half |= (v >> bit & 1) << place;
+                place--;
+            }
+        }
+        return half;
+    }
+
+    private static void eachBitOfImmediates() {
+        for (int v = 4; v <= 512; v *= 2) {
+            leaves("addi4spn " + v, scatter(v, "5:4|9:6|2|3", 12) | 1 << 2, 9, BREAK + v);
+        }
+        for (int v = 16; v <= 512; v *= 2) {
+            int want = v == 512 ? -512 : v;
+            leaves("addi16sp " + v, 0x6101 | scatter(v, "9", 12) | scatter(v, "4|6|8:7|5", 6), 2, BREAK + want);
+        }
+        for (int v = 1; v <= 32; v *= 2) {
+            int want = v == 32 ? -32 : v;
+            int bits = scatter(v, "5", 12) | scatter(v, "4:0", 6);
+            leaves("addi " + v, 0x0281 | bits, 5, 100 + want, 5, 100);
+            leaves("li " + v, 0x4281 | bits, 5, want, 5, 100);
+            leaves("lui " + v, 0x6281 | bits, 5, want << 12, 5, 100);
+            leaves("andi " + v, 0x8801 | bits, 8, want & 0x55555555, 8, 0x55555555);
+            if (v < 32) {
+                leaves("slli " + v, 0x0282 | bits, 5, 3 << v, 5, 3);
+                leaves("srli " + v, 0x8001 | bits, 8, -3 >>> v, 8, -3);
+                leaves("srai " + v, 0x8401 | bits, 8, -300 >> v, 8, -300);
+            }
+        }
+        for (int v = 4; v <= 64; v *= 2) {
+            int bits = scatter(v, "5:3", 12) | scatter(v, "2|6", 6);
+            leaves("lw " + v, 0x4000 | bits | 1 << 7 | 2 << 2, 10, 2 | 32 << 16, 9, 0x10000 - v);
+            Rig rig = after(0xC000 | bits | 1 << 7 | 2 << 2, 9, RAM, 10, 1000 + v);
+            Check.due("sw " + v, rig.word(RAM + v), 1000 + v);
+        }
+        for (int v = 4; v <= 128; v *= 2) {
+            int load = scatter(v, "5", 12) | scatter(v, "4:2|7:6", 6);
+            leaves("lwsp " + v, 0x4002 | load | 5 << 7, 5, 2 | 32 << 16, 2, 0x10000 - v);
+            Rig rig = after(0xC002 | scatter(v, "5:2|7:6", 12) | 5 << 2, 2, RAM, 5, 1000 + v);
+            Check.due("swsp " + v, rig.word(RAM + v), 1000 + v);
+        }
+        for (int v = 2; v <= 2048; v *= 2) {
+            int bits = scatter(v, "11|4|9:8|10|6|7|3:1|5", 12);
+            int want = v == 2048 ? -2048 : v;
+            goes("jal " + v, 0x2001 | bits, want, CODE + 2502);
+            goes("j " + v, 0xA001 | bits, want, 0);
+        }
+        for (int v = 2; v <= 256; v *= 2) {
+            int bits = scatter(v, "8|4:3", 12) | scatter(v, "7:6|2:1|5", 6);
+            int want = v == 256 ? -256 : v;
+            goes("beqz " + v, 0xC001 | bits | 1 << 7, want, 0);
+            goes("bnez " + v, 0xE001 | bits | 1 << 7, want, 0, 9, 0x1000);
+        }
     }
 }

@@ -499,6 +499,9 @@ public final class DriversTest {
         rig.kept("itself", SENDER + 64, 129, 1);
         rig.kept("17", SENDER + 80, 0, 7);
         rig.kept("-1", SENDER + 96, 0, 7);
+        rig = Rig.running(App.plain(64).name("sixteen bytes ab").code(new Code().allowReadLabel(7, 0, "t", 16)
+                .command(7, 3, 16, 0).keep(RAM).spin().label("t").text("sixteen bytes ab"))).run(30);
+        rig.kept("16", RAM, 129, 0);
     }
 
     private static int crc(String s) {

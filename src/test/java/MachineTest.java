@@ -44,6 +44,8 @@ public final class MachineTest {
         op("sll", 1, 0, 1, 31, MIN);
         op("slt", 2, 0, -1, 0, 1);
         op("slt", 2, 0, 0, -1, 0);
+        op("slt", 2, 0, 5, 5, 0);
+        op("sltu", 3, 0, 5, 5, 0);
         op("sltu", 3, 0, -1, 0, 0);
         op("sltu", 3, 0, 0, -1, 1);
         op("xor", 4, 0, 0x0FF0, 0x00FF, 0x0F0F);
@@ -150,6 +152,11 @@ public final class MachineTest {
                 .word(Code.iType(3, 2, 26, 10, 0)).word(Code.iType(3, 2, 0, 11, 16)).spin();
         Rig rig = Rig.running(64, c).run(20);
         GrantBoard b = rig.board;
+        Rig over = Rig.running(64, new Code().li(5, -1).sw(11, 5, 0).sw(11, 5, 4).word(Code.sType(1, 11, 0, 0))
+                .word(Code.sType(1, 11, 0, 6)).sw(11, 5, 8).sb(11, 0, 9).spin()).run(10);
+        Check.due("sh over ones, low", over.word(RAM), 0xFFFF0000);
+        Check.due("sh over ones, high", over.word(RAM + 4), 0x0000FFFF);
+        Check.due("sb over ones", over.word(RAM + 8), 0xFFFF00FF);
         Check.due("lb", b.register(0, 20), -1);
         Check.due("lbu", b.register(0, 21), 255);
         Check.due("lh", b.register(0, 22), 0xFFFF80FF);
@@ -183,6 +190,10 @@ public final class MachineTest {
         atomic("max", 20, -1, 1, 1);
         atomic("minu", 24, -1, 1, 1);
         atomic("maxu", 28, -1, 1, -1);
+        atomic("min", 16, 1, -1, -1);
+        atomic("max", 20, 1, -1, 1);
+        atomic("minu", 24, 1, -1, 1);
+        atomic("maxu", 28, 1, -1, -1);
         Code c = new Code().li(5, 3).sw(11, 5, 0).word(Code.rType(0x2F, 2, 0, 5, 11, 5)).spin();
         Rig rig = Rig.running(64, c).run(5);
         Check.due("rd and rs2 the same: memory", rig.word(RAM), 6);

@@ -24,6 +24,7 @@ public final class StoreTest {
         whereRecordsEnd();
         compactedAtBoot();
         compactedWhenFull();
+        justRoomOnceCompacted();
         noRoom();
         numberOfAllOnes();
         cutAtEachWrite();
@@ -315,6 +316,14 @@ public final class StoreTest {
         rig = full(16, 1, 1, 4, 0);
         rig.board.boot(0, 1, 0, false, 0);
         Check.due("beyond the bank: not clean", rig.word(TWO), MARK | 1);
+        rig = full(16, 9, 9, 4, 0);
+        rig.burnWords(TWO, 9 ^ 9 ^ 4 ^ 0x5A5A5A5A);
+        rig.board.boot(0, 1, 0, false, 0);
+        Check.due("beyond the bank: no record", rig.board.stored(9, 9, -1), NONE);
+        rig = full(12, 9, 9, 0);
+        rig.burnWords(TWO, 9 ^ 9 ^ 0x5A5A5A5A);
+        rig.board.boot(0, 1, 0, false, 0);
+        Check.due("fewer than 16 bytes left: no record", rig.board.stored(9, 9, -1), NONE);
         rig = full(12, 1, 1, 0);
         rig.board.boot(0, 1, 0, false, 0);
         Check.due("fewer than 16 bytes left, but not clean", rig.word(TWO), MARK | 1);
@@ -355,6 +364,24 @@ public final class StoreTest {
         for (int i = 0; i < asks.length; i++) {
             Check.due("answered " + i, rig.word(RAM + 128 + 16 * i + 4), 0);
         }
+    }
+
+    private static void justRoomOnceCompacted() {
+        Ask[] asks = new Ask[44];
+        asks[0] = put(0, 0, 1);
+        for (int i = 1; i < 42; i++) {
+            asks[i] = put(i, 32, i);
+        }
+        asks[42] = put(0, 32, 2);
+        asks[43] = put(98, 12, 3);
+        Rig rig = asked(7, asks);
+        answers("just fits then", rig, 43, 0, 12, 98);
+        Check.due("compacted", rig.word(TWO), MARK | 1);
+        Check.due("the last word of the bank is its check", rig.word(TWO + 2044),
+                7 ^ 98 ^ 12 ^ 0x03030303 ^ 0x03030303 ^ 0x03030303 ^ 0x5A5A5A5A);
+        rig.board.off();
+        rig.board.boot(0, 1, 0, false, 0);
+        Check.due("stored", rig.board.stored(7, 98, -1), 12);
     }
 
     private static void noRoom() {

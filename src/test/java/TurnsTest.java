@@ -364,13 +364,13 @@ public final class TurnsTest {
         for (int round = 0; round < 300; round++) {
             int kind = round % 3;
             int slice = 1 + random.nextInt(6);
-            int n = 1 + random.nextInt(4);
+            int n = 1 + random.nextInt(round % 10 == 0 ? 8 : 4);
             App[] apps = new App[n];
             java.util.Arrays.setAll(apps, i -> looping());
             Rig rig = Rig.with(apps);
             rig.board.boot(kind, slice, 0, false, 0);
             Model model = new Model(kind, slice, n);
-            for (int step = 0; step < 25; step++) {
+            for (int step = 0; step < (n > 4 ? 15 : 25); step++) {
                 int who = random.nextInt(n);
                 model.held[who] = random.nextInt(3) == 0;
                 rig.board.hold(who, model.held[who]);
