@@ -73,6 +73,12 @@ public final class AppsTest {
         }
         Check.due("a head of 512 bytes", loaded(large.code(SPIN)), 1);
         Check.due("size 512", large.headSize(), 512);
+        App larger = App.plain(64);
+        for (int i = 0; i < 121; i++) {
+            larger.raw(99, 0);
+        }
+        Check.due("size 516", larger.headSize(), 516);
+        Check.due("a head of 516 bytes: no more apps", loaded(larger.code(SPIN), app(64)), 0);
     }
 
     private static void passedOver() {
@@ -154,6 +160,19 @@ public final class AppsTest {
         return b;
     }
 
+    /** Sound credentials within an element: a free word of the head makes up for what they do to the check. */
+    private static byte[] signedInTheHead() {
+        byte[] b = App.program(64, 1).element(99, new byte[12]).element(97, new byte[4]).code(SPIN).bytes();
+        Code.put(b, 16 + 4 + 12, 44);
+        App.sign(b, 44);
+        int sum = 0;
+        for (int i = 0; i < 60; i += 4) {
+            sum ^= Code.get(b, i);
+        }
+        Code.put(b, 60, sum);
+        return b;
+    }
+
     private static void credentials() {
         Check.due("signed", strict(signed().bytes()), 1);
         Check.due("not signed", strict(App.program(64, 1).code(SPIN).bytes()), 0);
@@ -171,6 +190,8 @@ public final class AppsTest {
         Check.due("in the head", strict(withBinaryEnd(36)), 0);
         Check.due("no multiple of 4", strict(withBinaryEnd(42)), 0);
         Check.due("with a sign", strict(withBinaryEnd(0x80000000)), 0);
+        Check.due("sound ones, but in the head", strict(signedInTheHead()), 0);
+        Check.due("the head is so", new Rig().burn(Rig.FLASH, signedInTheHead()).board.boot(0, 1, 0, false, 0), 1);
         byte[] behind = App.program(64, 1).code(SPIN).signed().total(80).bytes();
         Check.due("more behind them", strict(behind), 1);
     }

@@ -78,6 +78,10 @@ public final class CallsTest {
         Check.due("run", rig.board.count(6), 1);
         rig.event("run", 0, 0, 1, 96);
         rig.event("the call was before", 1, 0, 0, 0);
+        c = new Code().subscribe(1, 2, "f", 0).allowWrite(1, 1, RAM, 1).command(1, 2, 1, 0).command(1, 3, 0, 0)
+                .yieldWait().spin().label("f").spin();
+        rig = Rig.running(256, c).run(40);
+        rig.event("one that waited, with its number", 0, 0, 1, 18);
 
         c = new Code().subscribe(6, 0, "f", 0);
         sampling(c, 1).yieldNow(CONTROL).spin().label("f").spin();
@@ -358,6 +362,10 @@ public final class CallsTest {
         rig.kept("for writing", RAM, 0, 6);
         rig.kept("one in the app does not count", RAM + 16, 129, RAM + 256);
         Check.due("audit", rig.board.audit(), 0);
+        c = new Code().allowRead(1, 0, RAM, 1).call(5, 0, RAM, 0, 0).keep(RAM + 16).call(5, 0, RAM + 1, 0, 0);
+        rig = ran(c, 40);
+        rig.kept("one byte at the beginning", RAM + 16, 0, 6);
+        Check.due("above it", rig.board.process(0, 6), RAM + 4);
     }
 
     private static void memoryAsked() {

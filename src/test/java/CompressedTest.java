@@ -39,7 +39,7 @@ public final class CompressedTest {
         leaves("addi4spn 4", 0x005C, 15, BREAK + 4);
         leaves("addi -32", 0x1281, 5, -27, 5, 5);
         leaves("addi 31", 0x0FFD, 31, 36, 31, 5);
-        leaves("li -32", 0x5381, 7, -32, 7, 9);
+        leaves("li -32", 0x5381, 7, -32, 7, 9, 1, 5);
         leaves("li 31", 0x43FD, 7, 31);
         leaves("addi16sp -512", 0x7101, 2, BREAK - 512);
         leaves("addi16sp 496", 0x617D, 2, BREAK + 496);

@@ -233,6 +233,9 @@ public final class DriversTest {
     }
 
     private static void consoleReadAborted() {
+        Rig none = ran(new Code().allowWrite(1, 1, RAM + 64, 8).allowRead(1, 1, RAM + 64, 8).command(1, 1, 8, 0)
+                .command(1, 3, 0, 0).keep(RAM), 60);
+        none.kept("without a read, with buffers and a write", RAM, 0, 3);
         Code c = new Code().command(1, 3, 0, 0).keep(RAM).subscribe(1, 2, "f", 3).allowWrite(1, 1, RAM + 64, 8)
                 .command(1, 2, 4, 0).subscribe(3, 0, "f", 0).command(3, 1, 0, 0).yieldFor(3, 0).command(1, 3, 0, 0)
                 .keep(RAM + 16).yieldWait().spin().label("f").keep(RAM + 32).spin();
@@ -385,6 +388,10 @@ public final class DriversTest {
         rig.kept("OK", RAM, 128);
         rig.kept("OK", RAM + 16, 128);
         rig.kept("busy", RAM + 32, 0, 2);
+        Rig zero = Rig.running(256, new Code().command(6, 2, 0, 20).yieldFor(6, 0).keep(RAM).spin());
+        zero.board.level(0, 33);
+        zero.run(50);
+        zero.kept("channel 0", RAM, 0, 33, 0);
         rig.run(300);
         Check.due("dropped", rig.board.count(9), 23);
     }
@@ -502,6 +509,11 @@ public final class DriversTest {
         rig = Rig.running(App.plain(64).name("sixteen bytes ab").code(new Code().allowReadLabel(7, 0, "t", 16)
                 .command(7, 3, 16, 0).keep(RAM).spin().label("t").text("sixteen bytes ab"))).run(30);
         rig.kept("16", RAM, 129, 0);
+        rig = Rig.running(App.plain(64).name("a").code(new Code().allowReadLabel(7, 0, "t", 20)
+                .command(7, 3, 17, 0).keep(RAM).command(7, 3, 1, 0).keep(RAM + 16).spin().label("t")
+                .text("abcdefghijklmnopqrst"))).run(40);
+        rig.kept("17 of 20", RAM, 0, 7);
+        rig.kept("1", RAM + 16, 129, 0);
     }
 
     private static int crc(String s) {

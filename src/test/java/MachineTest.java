@@ -46,6 +46,8 @@ public final class MachineTest {
         op("slt", 2, 0, 0, -1, 0);
         op("slt", 2, 0, 5, 5, 0);
         op("sltu", 3, 0, 5, 5, 0);
+        op("sltu", 3, 0, 5, MIN, 1);
+        op("sltu", 3, 0, -2, -1, 1);
         op("sltu", 3, 0, -1, 0, 0);
         op("sltu", 3, 0, 0, -1, 1);
         op("xor", 4, 0, 0x0FF0, 0x00FF, 0x0F0F);
@@ -258,6 +260,13 @@ public final class MachineTest {
         rig.run(3);
         rig.run(1);
         Check.due("priority: another process was between", rig.board.register(1, 6), 1);
+
+        c = sc(new Code(), 6, 11, 0);
+        lr(c, 5, 11).spin();
+        rig = Rig.running(64, c).run(2);
+        rig.board.restart(0);
+        rig.run(1);
+        Check.due("a process that is started reserves nothing", rig.board.register(0, 6), 1);
 
         c = new Code().mv(8, 10);
         lr(c, 5, 8).spin();

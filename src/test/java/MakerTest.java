@@ -41,6 +41,10 @@ public final class MakerTest {
             Check.due("burnt " + i, b.memory(0x10000 + i), want[i]);
         }
         Check.due("tape empty", b.end(1), GrantBoard.OUTSIDE);
+        Check.due("end of an empty one", b.end(0), 0);
+        b.feed(1, 2, 3, 4, 5);
+        Check.due("end 0", b.end(0), 0);
+        Check.due("empty", b.burn(0x10000), 0);
     }
 
     private static void tapeLimit() {

@@ -247,6 +247,7 @@ public final class StoreTest {
         Check.due(what + ": not clean", rig.board.boot(0, 1, 0, false, 0), GrantBoard.LOST);
         Check.due(what, rig.board.stored(1, 1, 0), 10);
         Check.due(what + " key 2", rig.board.stored(2, 2, -1), NONE);
+        Check.due(what + " number of all ones", rig.board.stored(-1, 2, -1), NONE);
         Check.due(what + ": then compacted", rig.board.boot(0, 1, 0, false, 0), 0);
         Check.due(what + " serial", rig.word(TWO), MARK | 10);
         Check.due(what + " record", rig.word(TWO + 16), 10);
@@ -261,7 +262,7 @@ public final class StoreTest {
         ends("a length with a sign", 2, 2, 0x80000004, 0, sum ^ 0x80000004);
         ends("a check not so", 2, 2, 4, 0, sum ^ 5);
         ends("nothing behind the length", 2, 2, 4);
-        ends("all ones where one would begin", -1, 2, 4, 0, sum ^ 4);
+        ends("all ones where one would begin", -1, 2, 4, 0, sum ^ -1 ^ 2 ^ 4);
         Rig rig = new Rig();
         rig.burnWords(ONE, MARK | 9).burnWords(ONE + 4, record(10)).burnWords(ONE + 2044, 0);
         rig.board.boot(0, 1, 0, false, 0);

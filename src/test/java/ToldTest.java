@@ -208,7 +208,10 @@ public final class ToldTest {
         Check.due("no more", rig.board.event(199, 3), NONE);
         rig.run(3);
         Check.due("200", rig.board.event(199, 3), 100);
-        rig.run(6);
+        rig.run(3);
+        Check.due("the oldest kept of 201", rig.board.event(199, 3), 200);
+        Check.due("no more of 201", rig.board.event(200, 3), NONE);
+        rig.run(3);
         Check.due("the oldest kept", rig.board.event(199, 3), 300);
         Check.due("no more are", rig.board.event(200, 3), NONE);
         Check.due("the latest", rig.board.event(0, 3), 20200);
