@@ -1,5 +1,6 @@
 import java.io.ByteArrayOutputStream;
 import java.util.Arrays;
+import java.util.zip.CRC32;
 
 /** Part 3: heads, elements, credentials, names and versions, loading, each at its bounds. */
 public final class EdgesAppsTest {
@@ -268,22 +269,35 @@ public final class EdgesAppsTest {
         Check.due("the 16th byte counts", loaded(first, other), 2);
         Check.due("a byte 0 counts", loaded(App.plain(64).name("a").code(SPIN),
                 App.plain(64).name("a\0").code(SPIN)), 2);
+        App large = App.plain(15873).name("xy").code(SPIN);
+        Check.due("no name is no name of zeros", loaded(large, app(), named("\0\0", 9)), 2);
+        Code asks = new Code().allowReadLabel(7, 0, "t", 2).command(7, 3, 2, 0).spin().label("t").word(0);
+        Rig rig = Rig.with(large, App.of(64, asks), named("\0\0", 9));
+        rig.board.boot(1, 1, 0, false, 0);
+        rig.run(20);
+        Check.due("who has the name of zeros", rig.board.register(0, 11), 1);
     }
 
     /** 8 (length a multiple of 8, 8 .. 64): PERMISSIONS. */
     private static void permissionLengths() {
         Code c = new Code().command(2, 1, 0, 0).spin();
-        for (int n = 0; n <= 80; n += 4) {
+        for (int n = 0; n <= 80; n++) {
             Rig rig = Rig.running(App.plain(64).element(8, bytes(n)).code(c)).run(10);
             boolean counts = n % 8 == 0 && n >= 8 && n <= 64;
             Check.due("an 8 of " + n + " bytes: the lamp", rig.board.lamp(0), counts ? 0 : 1);
         }
-        int[] pairs = new int[16];
-        pairs[14] = 2;
-        pairs[15] = 2;
-        Rig rig = Rig.running(App.plain(64).permissions(pairs).code(c)).run(10);
-        Check.due("the eighth pair", rig.board.lamp(0), 1);
-        rig = Rig.running(App.plain(64).permissions(1, 2, 5, 7, 9, 9, 2, 0x80000000).code(
+        for (int pair = 0; pair < 8; pair++) {
+            int[] pairs = new int[16];
+            pairs[2 * pair] = 2;
+            pairs[2 * pair + 1] = 2;
+            Rig rig = Rig.running(App.plain(64).permissions(pairs).code(c)).run(10);
+            Check.due("pair " + pair, rig.board.lamp(0), 1);
+            rig = Rig.running(App.plain(64).permissions(Arrays.copyOf(pairs, 2 * pair + 2)).code(c)).run(10);
+            Check.due("pair " + pair + " of so many", rig.board.lamp(0), 1);
+        }
+        Rig behind = Rig.running(App.plain(64).permissions(3, -1).raw(2, 0, 2, 0).code(c)).run(10);
+        Check.due("what lies behind the element is no pair", behind.board.lamp(0), 0);
+        Rig rig = Rig.running(App.plain(64).permissions(1, 2, 5, 7, 9, 9, 2, 0x80000000).code(
                 new Code().command(2, 31, 0, 0).spin())).run(10);
         Check.due("bit 31: there is no such command", rig.board.register(0, 11), 10);
     }
@@ -310,10 +324,28 @@ public final class EdgesAppsTest {
             Check.due("binary end " + end, loaded(true, ending(total, end)), 0);
             Check.due("but not strict", loaded(false, ending(total, end)), 1);
         }
+        for (int end = 41; end < 44; end++) {
+            byte[] b = ending(total, end);
+            Code.put(b, 40, 8 << 16 | 128);
+            Code.put(b, 44, 1);
+            CRC32 crc = new CRC32();
+            crc.update(b, 0, end);
+            Code.put(b, 48, (int) crc.getValue());
+            Check.due("binary end " + end + ", credentials at 40", loaded(true, b), 0);
+        }
+        for (int end = 44; end <= 64; end += 4) {
+            byte[] b = Arrays.copyOf(ending(52, end), 80);
+            App.sign(b, end);
+            Check.due("credentials that go beyond the app, at " + end, loaded(true, b), 0);
+        }
         Check.due("a total of 52: 40 alone", loaded(true, ending(52, 40)), 1);
         Check.due("a total of 48: none", loaded(true, ending(48, 40)), 0);
         Check.due("without a 9 the binary end is TOTAL: none", loaded(true, App.plain(64).code(SPIN).signed().bytes()), 0);
         Check.due("that app when not strict", loaded(false, App.plain(64).code(SPIN).signed().bytes()), 1);
+        byte[] b = App.plain(64).raw(40, 0).code(SPIN).total(64).bytes();
+        App.sign(b, 40);
+        Check.due("nor is it a word that lies where a 9 would have it", loaded(true, b), 0);
+        Check.due("that app when not strict", loaded(false, b), 1);
     }
 
     private static void eachByteOfCredentials() {

@@ -259,6 +259,13 @@ public final class EdgesBlocksTest {
         for (int k = 2; k < 16; k++) {
             entry("others", rig, 0, k, 0, 0);
         }
+        rig = Rig.with(app(64).total(64), app(100));
+        rig.board.boot(0, 1, 0, false, 0);
+        for (int round = 0; round < 2; round++) {
+            entry("of one with four", rig, 1, 3, 0x20464 >> 2, 11);
+            entry("of one with two, asked behind it", rig, 0, 3, 0, 0);
+            entry("of one with two, asked behind it", rig, 0, 2, 0, 0);
+        }
     }
 
     /** Grants lie each below the one before; one that would go below the break is not made. */

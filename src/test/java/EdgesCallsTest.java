@@ -30,6 +30,7 @@ public final class EdgesCallsTest {
         memoryWithoutWrapping();
         exitCodes();
         tenUpcalls();
+        dropsAreNoted();
         whoGetsNoUpcall();
         overForGood();
         refusedLeavesAll();
@@ -489,7 +490,21 @@ public final class EdgesCallsTest {
                 .ask("one is given", 0, 2, 6, 0, 0, 0, 0, 1).waiting("nine", 9)
                 .command("there is place again", 6, 1, 1, 0, 128).waiting("ten", 10)
                 .lastUpcall("behind the others", 6, 0, 1, 0, 1)
-                .then(r -> Check.due("no more dropped", r.board.count(9), 1)).go();
+                .then(r -> Check.due("no more dropped", r.board.count(9), 1))
+                .ask("subscribing takes all ten back", 1, 6, 0, F, 9, 130, F, 0).waiting("none", 0)
+                .command("and the next waits alone", 6, 1, 1, 0, 128).waiting("one", 1).go();
+    }
+
+    /** The number of a drop: 16 times the driver and its number. */
+    private static void dropsAreNoted() {
+        Talk talk = new Talk(256).subscribe(6, 0).subscribe(1, 2).allowWrite(1, 1, RAM, 1);
+        for (int i = 0; i < 10; i++) {
+            talk.command("sample", 6, 1, 0, 0, 128);
+        }
+        Rig rig = talk.command("read", 1, 2, 1, 0, 128).then(r -> Check.due("it comes all the same", r.board.type(7), 1)).go();
+        rig.event("dropped", 0, 0, 5, 18);
+        Check.due("the byte is there", rig.board.memory(RAM), 7);
+        Check.due("ten wait", rig.board.process(0, 9), 10);
     }
 
     private static void nothingComes(String what, Rig rig) {
@@ -527,9 +542,10 @@ public final class EdgesCallsTest {
         for (int how = 0; how < 2; how++) {
             boolean exits = how == 0;
             Talk talk = new Talk(256).subscribe(6, 0).command("sample", 6, 1, 0, 0, 128)
-                    .command("sampling", 6, 2, 1, 50, 128).command("alarm", 0, 6, 5, 999999, 129)
+                    .command("sampling", 6, 2, 1, 50, 128)
                     .allowWrite(1, 1, RAM, 8).allowRead(1, 1, RAM, 8).command("read", 1, 2, 8, 0, 128)
-                    .command("write", 1, 1, 8, 0, 128).command("hears", 3, 1, 3, 0, 128).allowWrite(7, 0, RAM, 8);
+                    .command("write", 1, 1, 8, 0, 128).command("alarm", 0, 6, 5, 999999, 129)
+                    .command("hears", 3, 1, 3, 0, 128).allowWrite(7, 0, RAM, 8);
             if (exits) {
                 talk.ask("exit", 6, 0, 3, 0, 0);
             } else {
@@ -544,6 +560,12 @@ public final class EdgesCallsTest {
                 for (int i = 0; i < row[2]; i++) {
                     Check.due("own word " + i + " of " + row[0], rig.word(rig.board.grant(0, row[0]) + row[1] + 4 * i), 0);
                 }
+            }
+            int above = 0;
+            for (int driver : new int[] {6, 1, 0, 3, 7}) {
+                Check.due("the number of " + driver + " stays", rig.word(rig.board.grant(0, driver)), driver);
+                Check.due("what is above " + driver + " stays", rig.word(rig.board.grant(0, driver) + 4), above);
+                above = rig.board.grant(0, driver);
             }
             Check.due("the subscription stays", rig.word(rig.board.grant(0, 6) + 8), F);
             Check.due("the buffer stays", rig.word(rig.board.grant(0, 7) + 28), 8);

@@ -35,7 +35,10 @@ public final class EdgesDriversTest {
         postOrder();
         postBox();
         postNames();
+        postNameOfNobody();
+        eightOfThem();
         sumSizes();
+        oneDriverEach();
         commandZero();
         Check.finish();
     }
@@ -632,6 +635,42 @@ public final class EdgesDriversTest {
         talk.play(rig);
     }
 
+    private static void postNameOfNobody() {
+        App large = App.plain(15873).name("none").code(new Code().spin());
+        Talk talk = new Talk(256);
+        talk.code(c -> c.j("past").label("names").text("none").label("past"));
+        int names = talk.here() - 4;
+        talk.allowRead(7, 0, names, 4).command("an app that is not loaded", 7, 3, 4, 0, 0, 11);
+        Rig rig = Rig.with(talk.app(), large);
+        Check.due("one process", rig.board.boot(1, 1, 0, false, 0), 1);
+        talk.play(rig);
+    }
+
+    /** With as many processes as there may be, the world still reaches each of them, and no further. */
+    private static void eightOfThem() {
+        App[] apps = new App[8];
+        for (int i = 0; i < 8; i++) {
+            int base = RAM + 1024 * i;
+            apps[i] = App.plain(64).name("app" + i).code(new Code().subscribe(3, 0, "f", 0).command(3, 1, 2, 0)
+                    .allowWrite(1, 1, base, 1).command(1, 2, 1, 0).allowReadLabel(7, 0, "t", 4).command(7, 3, 4, 0).label("f")
+                    .spin().label("t").text(i == 0 ? "app7" : "appx"));
+        }
+        Rig rig = Rig.with(apps);
+        Check.due("eight", rig.board.boot(1, 1, 0, false, 0), 8);
+        for (int i = 0; i < 8; i++) {
+            rig.run(60);
+            Check.due("by name", rig.board.register(i, 11), i == 0 ? 7 : 11);
+            rig.board.hold(i, true);
+        }
+        rig.board.press(2, true);
+        for (int i = 0; i < 8; i++) {
+            Check.due("heard by " + i, rig.board.process(i, 9), 1);
+            Check.due("typed", rig.board.type(50 + i), 1);
+            Check.due("read by " + i, rig.board.memory(RAM + 1024 * i), 50 + i);
+        }
+        Check.due("no read is left", rig.board.type(1), 0);
+    }
+
     private static int crc(Rig rig, int address, int n) {
         CRC32 c = new CRC32();
         for (int i = 0; i < n; i++) {
@@ -651,6 +690,34 @@ public final class EdgesDriversTest {
                 .go();
         Rig all = new Talk(256).allowRead(8, 0, APP, 0x2000).command("all of the app", 8, 1, -1, 0, 129).go();
         Check.due("crc of all", all.board.register(0, 11), crc(all, APP, 0x2000));
+    }
+
+    /** A command is its driver's alone: no other driver's upcall comes, no other's words or lamps change. */
+    private static void oneDriverEach() {
+        int[][] commands = {{0, 1}, {0, 2}, {0, 5}, {1, 1}, {1, 2}, {2, 1}, {2, 2}, {2, 3}, {3, 1}, {3, 2}, {3, 3}, {4, 1},
+            {5, 1}, {5, 2}, {5, 3}, {6, 1}, {6, 2}, {7, 3}, {8, 1}};
+        for (int[] c : commands) {
+            Talk talk = new Talk(256, App.plain(256).storeNumber(1).name("a")).ask("of alarm", 1, 0, 0, F, 0, 130);
+            for (int driver : new int[] {3, 4, 5, 6, 7}) {
+                talk.subscribe(driver, 0);
+            }
+            talk.subscribe(1, 1).subscribe(1, 2).allowRead(8, 0, RAM, 1).allowRead(1, 1, RAM, 1).allowWrite(1, 1, RAM, 1)
+                    .allowRead(5, 0, RAM, 1);
+            talk.command("command " + c[1] + " of " + c[0], c[0], c[1], 1, 1);
+            boolean sends = c[0] == 4 || c[0] == 5 || c[0] == 6 && c[1] == 1;
+            Rig rig = talk.waiting("command " + c[1] + " of " + c[0], sends ? 1 : 0).go();
+            if (sends) {
+                Check.due("its own", rig.board.upcall(0, 0, 0), c[0]);
+            }
+            Check.due("lamp", rig.board.lamp(1), c[0] == 2 && c[1] != 2 ? 1 : 0);
+            Check.due("flash writes", rig.board.count(4), c[0] == 5 && c[1] == 2 ? 2 + 5 : 2);
+            int[][] own = {{0, 0}, {1, 0}, {1, 2}, {3, 0}, {6, 0}, {7, 0}};
+            int[] maker = {5, 1, 2, 1, 2, -1};
+            for (int i = 0; i < own.length; i++) {
+                boolean its = own[i][0] == c[0] && maker[i] == c[1];
+                Check.due("own word of " + own[i][0], own(rig, 0, own[i][0], own[i][1]) != 0 ? 1 : 0, its ? 1 : 0);
+            }
+        }
     }
 
     private static void commandZero() {

@@ -14,6 +14,7 @@ public final class EdgesMachineTest {
         addressesWrap();
         halvesAtTheAppsEnd();
         farJumps();
+        eachBitOfImmediates();
         startAtOddPlaces();
         divisions();
         shifts();
@@ -185,8 +186,8 @@ public final class EdgesMachineTest {
         Rig rig = Rig.running(64, code);
         rig.run(1);
         Check.due(what, rig.board.process(0, 1), address);
-        rig.run(1);
-        if (address != CODE) {
+        if (address < APP || address >= CODE + 4) {
+            rig.run(1);
             fault(what, rig, 1, address);
         }
     }
@@ -201,6 +202,34 @@ public final class EdgesMachineTest {
         goes("jalr below 0", new Code().word(Code.iType(0x67, 0, 0, 0, -1)), -2);
         goes("jalr to the least offset", new Code().word(Code.iType(0x67, 0, 0, 0, -2048)), -2048);
         goes("jalr to the greatest", new Code().word(Code.iType(0x67, 0, 0, 0, 2047)), 2046);
+    }
+
+    /** One bit of an offset or a number at a time, and all but it. */
+    private static void eachBitOfImmediates() {
+        for (int bit = 1; bit < 21; bit++) {
+            int v = bit == 20 ? -0x100000 : 1 << bit;
+            goes("jal by bit " + bit, new Code().word(Code.jType(0, v)), CODE + v);
+            goes("jal by all but bit " + bit, new Code().word(Code.jType(0, ~1 ^ v)), CODE + (bit == 20 ? 0xFFFFE : ~1 ^ v));
+        }
+        for (int bit = 1; bit < 13; bit++) {
+            int v = bit == 12 ? -4096 : 1 << bit;
+            goes("branch by bit " + bit, new Code().word(Code.bType(0, 0, 0, v)), CODE + v);
+            goes("branch by all but bit " + bit, new Code().word(Code.bType(0, 0, 0, ~1 ^ v)),
+                    CODE + (bit == 12 ? 4094 : ~1 ^ v));
+        }
+        for (int bit = 0; bit < 12; bit++) {
+            int v = bit == 11 ? -2048 : 1 << bit;
+            Check.due("addi " + v, result(Code.iType(0x13, 0, 12, 10, v), 5, 0), 5 + v);
+            Rig rig = ran(4096, new Code().li(5, RAM + 2048 - v).li(6, 77).sb(5, 6, v));
+            Check.due("sb " + v, rig.board.memory(RAM + 2048), 77);
+            rig = ran(4096, new Code().li(5, RAM + 2048).li(6, 77).sb(5, 6, 0).li(5, RAM + 2048 - v)
+                    .word(Code.iType(3, 0, 20, 5, v)));
+            Check.due("lb " + v, rig.board.register(0, 20), 77);
+        }
+        for (int bit = 12; bit < 32; bit++) {
+            Check.due("lui " + bit, result(1 << bit | 12 << 7 | 0x37, 0, 0), 1 << bit);
+            Check.due("auipc " + bit, result(1 << bit | 12 << 7 | 0x17, 0, 0), CODE + 8 + (1 << bit));
+        }
     }
 
     private static void startAtOddPlaces() {

@@ -13,9 +13,11 @@ public final class EdgesTurnsTest {
         levelTwoAtMost();
         levelsUsedInParts();
         levelsPlaces();
+        levelsEightPlaces();
         levelsTurnOverJustAsItCannotRun();
         levelsForgottenAtTheMultiple();
         noneCanRun();
+        noneOfEightCanRun();
         whoCanRun();
         startingKeepsLevelAndTurn();
         limits();
@@ -257,6 +259,21 @@ public final class EdgesTurnsTest {
         levels("no level for that", rig, 0, 0, 0, 0);
     }
 
+    private static void levelsEightPlaces() {
+        Rig rig = loops(8, 2, 10);
+        for (int i = 0; i < 8; i++) {
+            rig.run(1);
+            turn("at first as their numbers", rig, i, 8);
+            rig.board.hold(i, true);
+            if (i > 0) {
+                rig.board.hold(i - 1, false);
+            }
+        }
+        rig.run(1);
+        turn("0 is behind all others, but 7 is held", rig, 0, 8);
+        levels("all are on level 0", rig, 0, 0, 0, 0, 0, 0, 0, 0);
+    }
+
     /** If USED is not below that, also when it cannot run: its level is 1 more. */
     private static void levelsTurnOverJustAsItCannotRun() {
         Rig rig = loops(2, 2, 3);
@@ -333,6 +350,27 @@ public final class EdgesTurnsTest {
             did("the turn goes on", rig, 4, 0);
             rig.run(1);
             turn("as it would have", rig, scheduler == 1 ? 0 : 1, 2);
+        }
+    }
+
+    /** Also with as many processes as there may be, and with fewer than at an earlier boot. */
+    private static void noneOfEightCanRun() {
+        for (int scheduler = 0; scheduler < 3; scheduler++) {
+            Rig rig = loops(8, scheduler, 4);
+            for (int i = 0; i < 8; i++) {
+                rig.board.hold(i, true);
+            }
+            rig.run(100);
+            Check.due("none of eight", rig.board.count(10), 0);
+            rig.board.off();
+            rig.burnWords(0x10000 + 36, 0);
+            Check.due("just one is left", rig.board.boot(scheduler, 4, 0, false, 0), 1);
+            rig.board.hold(0, true);
+            rig.run(100);
+            Check.due("nor any that was there before", rig.board.count(10), 0);
+            rig.board.hold(0, false);
+            rig.run(10);
+            did("then the one", rig, 10);
         }
     }
 
