@@ -221,6 +221,15 @@ public final class EdgesAppsTest {
             Rig rig = Rig.running(App.plain(64).element(7, bytes(n)).code(new Code().command(5, 1, 0, 0).spin())).run(10);
             Check.due("a 7 of " + n, rig.board.register(0, 10), n == 4 ? 128 : 0);
         }
+        for (int type = 0; type < 20; type++) {
+            Code c = new Code().command(5, 1, 0, 0).command(2, 1, 0, 0).spin();
+            Rig rig = Rig.running(App.plain(64).element(type, bytes(4)).element(type, bytes(8)).code(c)).run(6);
+            Check.due("a store number by type " + type, rig.board.register(0, 10), type == 7 ? 128 : 0);
+            rig.run(10);
+            Check.due("permissions by type " + type, rig.board.lamp(0), type == 8 ? 0 : 1);
+            App one = App.plain(64).element(type, bytes(2)).code(SPIN);
+            Check.due("a name by type " + type, loaded(one, one), type == 3 ? 1 : 2);
+        }
     }
 
     /** The first one of its type with the length that is told counts. */

@@ -204,6 +204,18 @@ public final class EdgesCallsTest {
                 .ask("third", 1, 6, 0, F + 2, -1, 130, 0, 7, -1)
                 .ask("fourth", 1, 6, 0, F, 5, 130, F + 2, -1, 5)
                 .then(rig -> Check.due("none was dropped", rig.board.count(9), 0)).go();
+        new Talk(256).subscribe(1, 1).subscribe(1, 2).subscribe(6, 0).allowWrite(1, 1, RAM, 1).allowRead(1, 1, RAM, 1)
+                .command("sample", 6, 1, 0, 0, 128).command("read", 1, 2, 1, 0, 128).command("over", 1, 3, 0, 0, 128)
+                .command("write", 1, 1, 1, 0, 128).then(rig -> {
+                    rig.board.hold(0, true);
+                    rig.run(8);
+                    rig.board.hold(0, false);
+                }).waiting("of three numbers", 3)
+                .ask("number 1 of the console", 1, 1, 1, F, 5, 130).waiting("the others stay", 2)
+                .then(rig -> Check.due("the sampler's", rig.board.upcall(0, 0, 0), 6))
+                .then(rig -> Check.due("number 2", rig.board.upcall(0, 1, 1), 2))
+                .ask("number 0", 1, 1, 0, F, 5, 130).waiting("the others stay", 2)
+                .ask("number 2", 1, 1, 2, F, 5, 130).waiting("one stays", 1).go();
     }
 
     private static void commandNumbers() {

@@ -29,6 +29,7 @@ public final class EdgesStoreTest {
         valuesTakenAway();
         withoutANumber();
         cutAtEachWriteOfAPut();
+        nobodyHearsOfALostPut();
         cutAtEachWriteOfACompaction();
         toldBytes();
         toldByWhichBank();
@@ -491,6 +492,21 @@ public final class EdgesStoreTest {
                 Check.due("compacted if a word lay there", rig.word(TWO), n > 0 && n < size ? MARK + 1 : -1);
             }
         }
+    }
+
+    /** Nobody hears of a put at which power went: an upcall for a full row would have been noted as dropped. */
+    private static void nobodyHearsOfALostPut() {
+        Talk talk = storing(3);
+        for (int i = 0; i < 10; i++) {
+            talk.command("none", 5, 1, 7, 0, 128);
+        }
+        talk.waiting("ten", 10).then(rig -> rig.board.cut(2));
+        Rig rig = Rig.with(talk.code(c -> c.command(5, 2, 7, 0)).app());
+        rig.board.boot(0, 1000, 0, false, 0);
+        talk.play(rig);
+        Check.due("lost", rig.board.run(20), LOST);
+        Check.due("none was dropped", rig.board.count(9), 0);
+        rig.event("the call itself is noted", 0, 0, 0, 2);
     }
 
     /** A full bank with two keys: each put compacts; whenever power goes, each key has its old value or its new one. */
